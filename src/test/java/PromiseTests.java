@@ -179,10 +179,10 @@ public final class PromiseTests {
     }
 
     private static void bothers() {
-        AHairToTheLeft x = told("pp30025;pd54113;pf29041;pm43015;pc62130;");
+        AHairToTheLeft x = told("pp30025;pd54113;pf29041;pm43015;pc63130;");
         int[][] rows = {{0, 0, 0}, {0, 1, 3}, {0, 199, 597}, {1, 4, 0}, {1, 3, 0}, {1, 5, 5}, {1, 199, 975},
             {2, 0, 0}, {2, 3, 12}, {2, 199, 796}, {3, 0, 0}, {3, 2, 16}, {3, 3, 27}, {3, 199, 1595},
-            {4, 4, 0}, {4, 5, 6}, {4, 19, 90}, {4, 20, 120}, {4, 199, 1194}};
+            {4, 6, 0}, {4, 7, 6}, {4, 19, 78}, {4, 20, 120}, {4, 199, 1194}};
         for (int[] r : rows) {
             due("bothers(" + r[0] + ", " + r[1] + ")", x.bothers(r[0], r[1]), r[2]);
         }
@@ -282,6 +282,7 @@ public final class PromiseTests {
         driftsOf("dw-3;", 0, -3, 10, 3);
         driftsOf("dc+3;", 0, 3, 19, 3, 20, 2, 39, 2, 59, 1, 60, 0, 80, 0, 9999, 0);
         driftsOf("dc-2;", 0, -2, 20, -1, 39, -1, 40, 0, 60, 0);
+        driftsOf("dc+1;", 0, 1, 19, 1, 20, 0, 40, 0);
         driftsOf("dc+0;", 0, 0, 100, 0);
         driftsOf("dj+2;", 0, 6, 1, 0, 2, 0, 3, 6, 9999, 6);
         driftsOf("du+2;", 0, 3, 1, 2, 9, 2, 10, -1, 11, -2, 20, 3);
@@ -379,6 +380,8 @@ public final class PromiseTests {
         costs(x, 3, 12, 0, 0, 3, 5);
         costs(x, 4, 15, 1, 3, 3, 6);
         costs(x, 240, 900, 60, 180, 3, 6);
+        costs(x, 1, 2, 0, 0, 1, 5);
+        costs(x, 0, 0, 0, 0, 0, 0);
         due("nothing changes: place(0)", x.place(0), 0);
         due("count(1)", x.count(1), 0);
         due("cost(-1, 9)", x.cost(-1, 9), -4);
@@ -438,12 +441,14 @@ public final class PromiseTests {
         due("best(240, 0)", x.best(240, 0), 3);
         due("best(4, 0)", x.best(4, 0), 4);
         due("best(0, 0)", x.best(0, 0), 1);
+        due("best(0, 2)", x.best(0, 2), 0);
         due("best(4, 2)", x.best(4, 2), 4);
         due("best(8, 2)", x.best(8, 2), 1);
         x.kind(1, 1);
         due("best(8, 1)", x.best(8, 1), 2);
         due("best(3, 1)", x.best(3, 1), 0);
         due("nothing changes", x.count(4) * 100 + x.count(5) * 10 + x.count(3), 321);
+        due("best(4, 3), though to leave it costs less", x.best(4, 3), 0);
         x = told("pp20010;");
         due("best(240, 0), free", x.best(240, 0), 1);
         x = told("pp10019;pp10011;");
@@ -468,6 +473,8 @@ public final class PromiseTests {
         due("finer(6, 0)", x.finer(6, 0), -1);
         due("finer(4, 1)", x.finer(4, 1), 0);
         due("person(0, 4)", x.person(0, 4), 5);
+        due("a hand of 1: finer(3, 0)", told("pp10050;re020;").finer(3, 0), 2);
+        due("finer(240, 0), fine already", told("pp10019;").finer(240, 0), 0);
         due("finer(-1, 9)", x.finer(-1, 9), TOLD + 4);
         due("finer(241, 9)", x.finer(241, 9), TOLD + 6);
         due("finer(0, 2)", x.finer(0, 2), TOLD + 1);
@@ -530,7 +537,9 @@ public final class PromiseTests {
 
     private static void leave() {
         AHairToTheLeft x = told("pp20013;");
+        due("leave(0)", x.leave(0), 0);
         due("leave(3)", x.leave(3), 0);
+        due("leave(240)", x.leave(240), 2 * (99 * 100 / 2 + 141 * 99) - 900);
         due("leave(4)", x.leave(4), 5);
         due("leave(8)", x.leave(8), 42);
         x = told("pp10019;");
