@@ -88,6 +88,12 @@ public final class EdgeTests extends Sheet {
         range(TWO, "person(.., 0)", (x, v) -> x.person(v, 0), 0, 1, -1, -1);
         range(TWO, "person(1, ..)", (x, v) -> x.person(1, v), 0, 5, -2, -2);
         refused(TWO, "person(2, 6)", x -> x.person(2, 6), -1);
+        int[][] each = {{0, 1, 0, 0, 1, 2}, {4, 9, 8, 1, 3, 7}};
+        for (int i = 0; i < 2; i++) {
+            for (int what = 0; what < 6; what++) {
+                due("person(" + i + ", " + what + ")", told("pp10012;pc98137;").person(i, what), each[i][what]);
+            }
+        }
     }
 
     private static void bothers() {

@@ -1,3 +1,6 @@
+import java.util.List;
+import java.util.function.ToIntFunction;
+
 /** Each sentence of the section "Terms" that names a boundary, by examples worked out by hand. */
 public final class TermsTests extends Sheet {
     private static final String FIVE = "pp10010;pd20010;pf30010;pm40010;pc50010;";
@@ -55,6 +58,10 @@ public final class TermsTests extends Sheet {
             int of = what;
             taken("pp00010;", "person(0, " + what + ")", x -> x.person(0, of), least[what]);
             taken("pc99159;", "person(0, " + what + ")", x -> x.person(0, of), greatest[what]);
+        }
+        int[] each = {3, 4, 7, 1, 2, 5};
+        for (int what = 0; what < 6; what++) {
+            due("person(0, " + what + ")", told("pm47125;").person(0, what), each[what]);
         }
         for (String s : new String[] {"pp00210;", "pp00910;", "pp00000;", "pp00060;", "pp00090;"}) {
             fault(s, -2000);
@@ -606,6 +613,63 @@ public final class TermsTests extends Sheet {
         due("refusals -6", x.count(16), 0);
     }
 
+    /** All that is asked in mind, each by an answer. */
+    private static final List<ToIntFunction<AHairToTheLeft>> ASKED = List.of(
+        x -> x.cost(60, 0), x -> x.cost(60, 1), x -> x.cost(60, 2), x -> x.cost(60, 3), x -> x.cost(60, 4), x -> x.at(60),
+        x -> x.of(1, 60, 0), x -> x.of(0, 60, 1), x -> x.of(1, 60, 2), x -> x.best(60, 0), x -> x.best(60, 1), x -> x.best(60, 2),
+        x -> x.best(60, 3), x -> x.finer(60, 0), x -> x.finer(60, 1), x -> x.mark(60), x -> x.most(60), x -> x.between(60),
+        x -> x.leave(60), x -> x.holds(0), x -> x.holds(-3), x -> x.setAt(), x -> x.steadyFrom(), x -> x.whoLast(60), x -> x.when(0),
+        x -> x.when(3), x -> then(x.row(52), x.kept(0)), x -> then(x.row(52), x.kept(1)), x -> then(x.row(52), x.judge()),
+        x -> x.lots(3, 7), x -> x.drifts(11), x -> x.bothers(1, 21), x -> x.person(1, 2), x -> x.count(7),
+        x -> x.whoLast(0), x -> x.cost(0, 3), x -> x.cost(0, 4), x -> x.of(1, 0, 2), x -> x.most(0));
+
+    /** Somebody has been asked much in mind, then it goes on by calls. */
+    private static AHairToTheLeft byCalls() {
+        AHairToTheLeft x = told("pp10012;pf34127;dw+3;");
+        x.cost(240, 0);
+        x.set(3, 1);
+        x.kind(0, 0);
+        due("two get up", x.go(5), 2);
+        return x;
+    }
+
+    private static AHairToTheLeft farther(AHairToTheLeft x) {
+        int[] numbers = {-11, -4, 3, 1, 2, 5};
+        for (int what = 0; what < 6; what++) {
+            x.set(what, numbers[what]);
+        }
+        x.kind(0, 4);
+        x.kind(1, 1);
+        x.turn(1);
+        return x;
+    }
+
+    /** What stands so by calls answers as what has been told so. */
+    private static void fromNow() {
+        for (int i = 0; i < ASKED.size(); i++) {
+            ToIntFunction<AHairToTheLeft> asked = ASKED.get(i);
+            AHairToTheLeft y = told("n05;w+05;pp10012;pf34127;");
+            due("asked behind minutes, number " + i, asked.applyAsInt(byCalls()), asked.applyAsInt(y));
+            AHairToTheLeft z = told("n05;w-11;s0-04;s1+03;ro025;du+1;pp10012;pf34127;");
+            z.turn(1);
+            z.cost(9, 0);
+            due("asked behind calls, number " + i, asked.applyAsInt(farther(byCalls())), asked.applyAsInt(z));
+        }
+    }
+
+    private static void nothingLingers() {
+        AHairToTheLeft x = told("w+50;pp30034;pp20023;");
+        due("cost(240, 1)", x.cost(240, 1) > 0 ? 1 : 0, 1);
+        due("whoLast(0)", x.whoLast(0), -9);
+        for (int what = 0; what < 5; what++) {
+            due("cost(0, " + what + ")", then(x.cost(240, 0), x.cost(0, what)), 0);
+            due("of(1, 0, ..)", then(x.cost(240, 0), x.of(1, 0, Math.min(2, what))), 0);
+        }
+        due("at(0)", then(x.at(240), x.at(0)), 50);
+        due("HAND behind finer()", then(x.finer(5, 0), x.person(0, 4)), 3);
+        due("HAND behind mark()", then(x.mark(5), x.person(1, 4)), 2);
+    }
+
     private static void costOfAll() {
         String three = "ds+0;re200;w+02;pp30019;pd51019;pf20119;";
         taken(three, "cost(0, 0)", x -> x.cost(0, 0), 0);
@@ -670,6 +734,7 @@ public final class TermsTests extends Sheet {
         taken("ro032;w+03;pp00019;", "no farther than he sits still with: best(13, 1)", x -> x.best(13, 1), 3);
         taken("ro209;w+20;pp00019;", "all alike: best(21, 1)", x -> x.best(21, 1), 0);
         taken("ro039;w+03;pp10010;", "best(1, 1)", x -> x.best(1, 1), 0);
+        taken("ro200;w+20;pp00019;", "10 were better, but there is none: best(31, 1)", x -> x.best(31, 1), 0);
         taken("re039;w+03;pp10019;", "an EDGE: best(240, 1)", x -> x.best(240, 1), 0);
         taken("ro039;w+03;pp10010;", "best(0, 1)", x -> x.best(0, 1), 0);
     }
@@ -699,6 +764,7 @@ public final class TermsTests extends Sheet {
         taken(two, "finer(5, 0)", x -> x.finer(5, 0), 0);
         taken(two, "below 0: finer(6, 0)", x -> x.finer(6, 0), -1);
         taken(two, "another's: finer(4, 1)", x -> x.finer(4, 1), 0);
+        taken("ds+0;re010;w+03;pp10050;", "1, not 2: finer(1, 0)", x -> x.finer(1, 0), 2);
         taken("pp10019;", "fine already: finer(240, 0)", x -> x.finer(240, 0), 0);
     }
 
@@ -708,6 +774,7 @@ public final class TermsTests extends Sheet {
         taken(two, "mark(4)", x -> x.mark(4), 2);
         taken(two, "below 0: mark(6)", x -> x.mark(6), -2);
         taken("ds+0;re010;w+02;pp00010;pp10050;", "the last one's too: turn(1), mark(1)", x -> then(x.turn(1), x.mark(1)), 2);
+        taken("ds+0;re010;w+03;pp10050;", "1, not 2: mark(1)", x -> x.mark(1), 2);
         taken("pp10010;pp10010;", "fine already: mark(240)", x -> x.mark(240), 0);
         taken("", "nobody: mark(240)", x -> x.mark(240), 0);
     }
@@ -776,6 +843,8 @@ public final class TermsTests extends Sheet {
         taken("dc-9;", "steadyFrom()", AHairToTheLeft::steadyFrom, 180);
         taken("dc+9;n60;n60;n59;", "steadyFrom()", AHairToTheLeft::steadyFrom, 1);
         taken("dc+9;n60;n60;n60;", "steadyFrom()", AHairToTheLeft::steadyFrom, 0);
+        taken("dc+9;", "behind minutes in mind", x -> then(x.cost(60, 0), x.steadyFrom()), 180);
+        taken("dc+9;", "behind another RATE", x -> then(x.cost(0, 0), then(x.set(3, 2), x.steadyFrom())), 40);
         taken("dj+1;", "two still minutes: steadyFrom()", AHairToTheLeft::steadyFrom, -9);
         taken("du-1;", "one still minute: steadyFrom()", AHairToTheLeft::steadyFrom, -9);
         taken("dw+1;", "steadyFrom()", AHairToTheLeft::steadyFrom, -9);
@@ -927,6 +996,63 @@ public final class TermsTests extends Sheet {
             due("cost(240, 0)", x.cost(240, 0), cost);
             x.go(60);
         }
+    }
+
+    /** Others have come since, and go with what they brought. */
+    private static void asNothingHadBeen() {
+        String then = "n03;pp10012;pf34127;pd21013;w-05;";
+        for (int i = 0; i < ASKED.size(); i++) {
+            AHairToTheLeft x = told(then);
+            x.turn(1);
+            x.image();
+            tell(x, "pc99159;pm71130;w+60;s0+11;s1-09;ds-2;rl077;n09;");
+            x.mark(60);
+            x.on();
+            AHairToTheLeft y = told(then);
+            y.turn(1);
+            due("asked behind on(), number " + i, ASKED.get(i).applyAsInt(x), ASKED.get(i).applyAsInt(y));
+        }
+    }
+
+    private static AHairToTheLeft gone() {
+        AHairToTheLeft x = new AHairToTheLeft();
+        x.image();
+        tell(x, "pc99159;pm71130;");
+        x.on();
+        return x;
+    }
+
+    private static void nobodyThen() {
+        refused(TermsTests::gone, "person(0, 0)", x -> x.person(0, 0), -1);
+        refused(TermsTests::gone, "bothers(0, 0)", x -> x.bothers(0, 0), -1);
+        refused(TermsTests::gone, "of(0, 0, 0)", x -> x.of(0, 0, 0), -1);
+        refused(TermsTests::gone, "finer(0, 0)", x -> x.finer(0, 0), TOLD + 1);
+        refused(TermsTests::gone, "turn(0)", x -> x.turn(0), -1);
+        due("best(5, 3)", gone().best(5, 3), -9);
+        due("most(5)", gone().most(5), -9);
+        due("cost(60, 0)", gone().cost(60, 0), 0);
+        due("mark(60)", gone().mark(60), 0);
+        due("count(7)", gone().count(7), 0);
+    }
+
+    private static void otherPeopleThen() {
+        AHairToTheLeft x = new AHairToTheLeft();
+        x.image();
+        tell(x, "pc99159;pm71130;");
+        x.on();
+        tell(x, "pp10012;pd21013;");
+        x.image();
+        tell(x, "pf50049;");
+        x.on();
+        due("person(1, 0)", x.person(1, 0), 1);
+        due("bothers(1, 3)", x.bothers(1, 3), 4);
+        due("finer(0, 2)", x.finer(0, 2), TOLD + 1);
+        due("of(2, 0, 0)", x.of(2, 0, 0), -1);
+        AHairToTheLeft one = told("ds+0;w+50;pp00019;");
+        one.image();
+        tell(one, "pp00019;");
+        one.on();
+        due("best(5, 3)", one.best(5, 3), 0);
     }
 
     private static void allButThese() {
@@ -1122,6 +1248,8 @@ public final class TermsTests extends Sheet {
     private static void bestOnes() {
         sentence("(In thought MINUTE may pass 9999.)", TermsTests::behind9999);
         sentence("In mind, from now, n MINUTES (0 .. 240):", TermsTests::inMind);
+        sentence("In mind, from now, n MINUTES (0 .. 240):", TermsTests::fromNow);
+        sentence("In mind, from now, n MINUTES (0 .. 240):", TermsTests::nothingLingers);
         sentence("COST (0: BOTHERS and PRICES of all), UPS (1), PRICES (2),", TermsTests::costOfAll);
         sentence("farthest AT was from the place of STATION 0 behind a MINUTE (3), of STATION 1 (4).", TermsTests::farthest);
         sentence("AT then.", TermsTests::atThen);
@@ -1152,6 +1280,9 @@ public final class TermsTests extends Sheet {
         sentence("A DRAW below m: z becomes z times 1664525 and 1013904223 (an int); (z without its sign's bit by 256, cut) modulo m.", TermsTests::lots);
         sentence("LOTS with a seed z: n evenings (1 .. 20) of 60 MINUTES, AT a DRAW below 41 less 20 at first: all COST.", TermsTests::eveningsFromNow);
         sentence("ON from it all is as then.", TermsTests::asAtTheImage);
+        sentence("ON from it all is as then.", TermsTests::asNothingHadBeen);
+        sentence("ON from it all is as then.", TermsTests::otherPeopleThen);
+        sentence("ON from it all is as then.", TermsTests::nobodyThen);
         sentence("THE IMAGE: all that there is, but it, the ROW, letters, REFUSALS;", TermsTests::allButThese);
         sentence("-1 NOBODY: no such one, STATION. -2 OTHER: what, KIND. -3 STATE: it is not as it must be. -4 BELOW: a number below the least."
             + " -6 ROOM: a number above the greatest, no room.", TermsTests::refusalsCounted);
