@@ -554,7 +554,10 @@ public final class AHairToTheLeft {
         }
 
         private int cooled(int by) {
-            return rate > 0 ? Math.max(0, rate - by) : Math.min(0, rate + by);
+            if (rate > 0) {
+                return rate > by ? rate - by : 0;
+            }
+            return rate < -by ? rate + by : 0;
         }
     }
 

@@ -334,6 +334,10 @@ public final class EdgeTests extends Sheet {
         refused(EdgeTests::withFullRow, "row(99)", x -> x.row(99), -6);
         refused(EdgeTests::withFullRow, "row(100)", x -> x.row(100), -6);
         refused(EdgeTests::withFullRow, "row(-1)", x -> x.row(-1), -4);
+        AHairToTheLeft filling = new AHairToTheLeft();
+        for (int i = 1; i <= 12; i++) {
+            due("number " + i, filling.row(i), i);
+        }
         AHairToTheLeft x = withFullRow();
         x.row(7);
         due("the 13th is not there", x.judge(), -9);

@@ -532,7 +532,7 @@ public final class TermsTests extends Sheet {
         }
         taken("ds+0;rk010;pp00010;", "alone: count(6)", x -> then(x.go(1), x.count(6)), 0);
         taken("ds+0;rk010;" + FIVE, "turn(4), go(1), count(6)", x -> then(x.turn(4), then(x.go(1), x.count(6))), 0);
-        taken("ds+0;" + FIVE, "nobody gets up: count(6)", x -> then(x.turn(3), then(x.go(60), x.count(6))), 3);
+        taken("ds+0;" + FIVE, "nobody gets up: count(6)", x -> then(x.turn(3), then(x.go(7), x.count(6))), 3);
     }
 
     private static void aMinute() {
@@ -1128,6 +1128,13 @@ public final class TermsTests extends Sheet {
         refuseAll(x);
         due("on", x.on(), y.on());
         same("all", all(x), all(y));
+        AHairToTheLeft z = told("ds+0;w+05;re200;pp10010;");
+        z.row(55);
+        refuseAll(z);
+        due("kept(1) behind refusals", z.kept(1), 16);
+        z.row(55);
+        refuseAll(z);
+        due("judge() behind refusals", z.judge(), -9);
     }
 
     private static void refuseAll(AHairToTheLeft x) {
