@@ -584,9 +584,14 @@ public final class ModelTests {
 
         String sign() { return below(2) == 0 ? "+" : "-"; }
 
-        String two(int below) {
-            int v = below(below);
-            return "" + v / 10 + v % 10;
+        String two(int below) { return digits(below(below)); }
+
+        String digits(int v) { return "" + v / 10 + v % 10; }
+
+        // A few minutes, but near the last one up to it or a little beyond.
+        int few() {
+            int left = 9999 - m.room.minute;
+            return left < 60 ? Math.max(0, left - 1 + below(3)) : 1 + below(4);
         }
 
         String statement() {
@@ -595,7 +600,7 @@ public final class ModelTests {
                 case 1: return "s" + digit(2) + sign() + two(below(15) == 0 ? 100 : 21) + ";";
                 case 2: return "d" + "swcju".charAt(below(5)) + sign() + digit(below(3) == 0 ? 10 : 4) + ";";
                 case 3: return "r" + "eokbl".charAt(below(5)) + two(below(15) == 0 ? 30 : 21) + digit(10) + ";";
-                case 4: return "n" + two(below(15) == 0 ? 70 : 30) + ";";
+                case 4: return "n" + (below(2) == 0 ? digits(few()) : two(below(15) == 0 ? 70 : 30)) + ";";
                 default:
                     return "p" + "pdfmc".charAt(below(5)) + digit(10) + digit(10) + digit(2) + (char) ('0' + 1 + below(below(15) == 0 ? 9 : 5)) + digit(10) + ";";
             }
@@ -605,7 +610,7 @@ public final class ModelTests {
             StringBuilder s = new StringBuilder();
             int n = 1 + below(4);
             for (int i = 0; i < n; i++) s.append(statement());
-            if (below(8) == 0) s.setCharAt(below(s.length()), (char) below(128));
+            if (below(8) == 0) s.setCharAt(below(s.length()), (char) below(256));
             if (below(12) == 0) s.setLength(below(s.length()));
             if (below(12) == 0) s.insert(below(s.length() + 1), "pwsdrn;0+x".charAt(below(10)));
             return s.toString();
@@ -645,7 +650,7 @@ public final class ModelTests {
                 case 6: a = someone(); due("turn(" + a + ")", x.turn(a), m.turn(a)); break;
                 case 7: a = within(0, 9999); due("drifts(" + a + ")", x.drifts(a), m.drifts(a)); break;
                 case 8: a = within(1, 60); due("go(" + a + ")", x.go(a), m.go(a)); break;
-                case 9: a = 1 + below(4); due("go(" + a + ")", x.go(a), m.go(a)); break;
+                case 9: a = few(); due("go(" + a + ")", x.go(a), m.go(a)); break;
                 case 10: b = within(0, 4); due("cost(" + n + ", " + b + ")", x.cost(n, b), m.cost(n, b)); break;
                 case 11: due("at(" + n + ")", x.at(n), m.at(n)); break;
                 case 12: a = someone(); b = within(0, 2); due("of(" + a + ", " + n + ", " + b + ")", x.of(a, n, b), m.of(a, n, b)); break;

@@ -247,6 +247,51 @@ public final class TermsTests extends Sheet {
         fault("n60;".repeat(23) + "n60x", -1095);
     }
 
+    /** Letters of 128 and more are no others in disguise. */
+    private static void faultOfHighLetters() {
+        for (String s : new String[] {"n01;", "pp00010;", "w+07;", "s1-20;", "du-9;", "rl209;"}) {
+            for (int i = 0; i < s.length(); i++) {
+                fault(s.substring(0, i) + (char) (s.charAt(i) + 128) + s.substring(i + 1), -1000 - i);
+            }
+        }
+    }
+
+    private static int[] numbers(AHairToTheLeft x) {
+        return new int[] {x.count(0), x.count(1), x.count(2), x.count(3), x.count(4), x.count(5), x.count(6), x.count(7),
+            x.place(0), x.place(1), x.place(2), x.drifts(0)};
+    }
+
+    /** Of the numbers only those change that stand here by pairs: which, and what it is then. */
+    private static void changesOnly(String statement, int... pairs) {
+        AHairToTheLeft x = told("pp10010;pd24123;ds+2;re032;w+01;");
+        x.turn(1);
+        int[] want = numbers(x);
+        for (int i = 0; i < pairs.length; i += 2) {
+            want[pairs[i]] = pairs[i + 1];
+        }
+        due(statement, tell(x, statement), 1);
+        int[] got = numbers(x);
+        for (int i = 0; i < want.length; i++) {
+            due("number " + i + " behind " + statement, got[i], want[i]);
+        }
+        due("the first one's MINDS behind " + statement, x.person(0, 1), 1);
+        due("the second one's HAND behind " + statement, x.person(1, 4), 2);
+    }
+
+    private static void eachStatementAlone() {
+        changesOnly("pm07155;", 0, 3);
+        changesOnly("pp90010;", 0, 3, 7, 12);
+        changesOnly("w-50;", 8, -50);
+        changesOnly("s0+11;", 9, 11);
+        changesOnly("s1-11;", 10, -11);
+        changesOnly("dj+0;", 2, 3, 11, 0);
+        changesOnly("ds-5;", 11, -5);
+        changesOnly("rk032;", 3, 2);
+        changesOnly("re172;", 4, 17);
+        changesOnly("re038;", 5, 8);
+        changesOnly("n01;", 1, 1, 8, 3);
+    }
+
     private static void faultAtTheEnd() {
         fault("n", -1001);
         fault("pp0001", -1006);
@@ -583,6 +628,18 @@ public final class TermsTests extends Sheet {
         due("count(1)", x.count(1), 9999);
     }
 
+    /** What swings, jumps and gets up by the clock does so alike every 60 minutes, and 9999 is 39 then. */
+    private static void allBehind9999() {
+        String folk = "w-07;s0-03;s1+04;pp30022;pd92127;pm41131;";
+        for (String kinds : new String[] {"dw+2;ro062;", "du+0;re030;", "du-1;rb052;", "dj-1;rl022;", "dj+1;re010;"}) {
+            for (int i = 0; i < ASKED.size(); i++) {
+                ToIntFunction<AHairToTheLeft> asked = ASKED.get(i);
+                due(kinds + " asked at 9999, number " + i, asked.applyAsInt(toldAt(9999, folk + kinds)), asked.applyAsInt(toldAt(39, folk + kinds)));
+            }
+        }
+        due("UNSURE by 0: steadyFrom()", toldAt(9999, "du+0;").steadyFrom(), -9);
+    }
+
     private static void inMind() {
         String letters = "pp13012;pd92127;dj+2;rk052;n02;w-07;";
         AHairToTheLeft x = told(letters);
@@ -777,6 +834,8 @@ public final class TermsTests extends Sheet {
         taken("ds+0;re010;w+03;pp10050;", "1, not 2: mark(1)", x -> x.mark(1), 2);
         taken("pp10010;pp10010;", "fine already: mark(240)", x -> x.mark(240), 0);
         taken("", "nobody: mark(240)", x -> x.mark(240), 0);
+        String five = "ds+0;re010;w+02;pp00010;pp00010;pp00010;pp00010;pp10050;";
+        taken(five, "the fifth one's: turn(4), mark(1)", x -> then(x.turn(4), x.mark(1)), 2);
     }
 
     private static void most() {
@@ -825,6 +884,11 @@ public final class TermsTests extends Sheet {
         holds("s1+00;dw+1;re100;", 0, -9, 1, 9, -10, -9);
         holds("s1+00;dw+1;re010;n09;", 0, 3);
         holds("s0+20;s1+20;re200;du+0;", -1, 82, 0, 80, -2, 0);
+        for (char rule : "eokbl".toCharArray()) {
+            String whichever = "s1+00;pp10019;pp10119;r" + rule + "032;";
+            holds(whichever, 3, 0, 2, 1, -3, 6, -4, 7, -5, 0);
+            taken(whichever, "by LIMIT: setAt()", AHairToTheLeft::setAt, 16);
+        }
     }
 
     private static void setAt() {
@@ -1216,11 +1280,13 @@ public final class TermsTests extends Sheet {
         sentence("\"n\" MINUTES (2 digits, 1 .. 60): they go by.", TermsTests::statementOfMinutes);
         sentence("At least one STATEMENT.", TermsTests::atLeastOne);
         sentence("kind 1 the place of the first letter with which no PARLOUR can go on", TermsTests::faultOfForm);
+        sentence("kind 1 the place of the first letter with which no PARLOUR can go on", TermsTests::faultOfHighLetters);
         sentence("(the end, if something lacks): -1000 less the place;", TermsTests::faultAtTheEnd);
         sentence("else kind 2", TermsTests::formBeforeSense);
         sentence("the place of the first letter of the first STATEMENT that, behind all ahead of it in the text, is not as it must be"
             + " (a number out of range, MINUTE above 9999, no room for more): -2000 less the place.", TermsTests::faultOfSense);
         sentence("Without FAULT all of it comes, with one nothing.", TermsTests::allOrNothing);
+        sentence("Without FAULT all of it comes, with one nothing.", TermsTests::eachStatementAlone);
     }
 
     private static void kinds() {
@@ -1254,6 +1320,7 @@ public final class TermsTests extends Sheet {
 
     private static void bestOnes() {
         sentence("(In thought MINUTE may pass 9999.)", TermsTests::behind9999);
+        sentence("(In thought MINUTE may pass 9999.)", TermsTests::allBehind9999);
         sentence("In mind, from now, n MINUTES (0 .. 240):", TermsTests::inMind);
         sentence("In mind, from now, n MINUTES (0 .. 240):", TermsTests::fromNow);
         sentence("In mind, from now, n MINUTES (0 .. 240):", TermsTests::nothingLingers);
